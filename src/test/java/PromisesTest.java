@@ -21,6 +21,7 @@ public final class PromisesTest {
     promise3();
     promise4();
     promise5();
+    fullTapes();
     faultsOfCounts();
     promise6();
     promise7();
@@ -147,6 +148,16 @@ public final class PromisesTest {
     C.due("5: [" + text + "] fault(1)", x.fault(1), place);
   }
 
+  /** What was on the tape behind its end is not there any more. */
+  private static void cut(String text, int end, int kind, int place) {
+    GuildCharter x = new GuildCharter();
+    Check.tape(x, text);
+    x.end(end);
+    x.port();
+    C.due("5: [" + text + "] up to " + end + ", fault(0)", x.fault(0), kind);
+    C.due("5: [" + text + "] up to " + end + ", fault(1)", x.fault(1), place);
+  }
+
   private static void good(String text) {
     text(text, 0, NONE);
   }
@@ -164,6 +175,12 @@ public final class PromisesTest {
     text("word a 12345 1 1;", 1, 7);
     text("word a 1 1 1b;", 1, 11);
     text("length 3length 3;", 1, 7);
+    text("length 3a", 1, 7);
+    text("length 3z;", 1, 7);
+    cut("rule s = ab", 10, 2, 10);
+    cut("length 22;", 8, 2, 8);
+    cut("length 2x", 8, 2, 8);
+    cut("length 2;?", 9, 0, NONE);
     good("word a1 2 3;length3;rule s=a;");
     good("word a 0000 0099 7;");
     text("word", 2, 4);
@@ -233,6 +250,19 @@ public final class PromisesTest {
     Check.port(x, "length 2;");
     C.due("5: mended, fault(0)", x.fault(0), 0);
     C.due("5: mended, fault(1)", x.fault(1), NONE);
+  }
+
+  /** Texts that fill the tape to its last byte. */
+  private static void fullTapes() {
+    good(" ".repeat(1600));
+    text(" ".repeat(1599) + "a", 2, 1599);
+    text(" ".repeat(1596) + "word", 2, 1600);
+    text(" ".repeat(1592) + "length 3", 2, 1600);
+    good(" ".repeat(1591) + "length 3;");
+    text("a".repeat(1600), 1, 0);
+    text("length " + "3".repeat(1593), 1, 7);
+    text(";".repeat(1600), 2, 0);
+    good("word a 1 2 3;" + "\n".repeat(1587));
   }
 
   private static void faultsOfCounts() {
@@ -410,6 +440,50 @@ public final class PromisesTest {
     x.undo();
     x.sell(1, 0);
     C.due("11: about(6)", x.about(6), 40);
+    manyActs();
+  }
+
+  private static void state(String when, GuildCharter x, int[] want) {
+    C.due(when + ", about(5)", x.about(5), want[0]);
+    for (int place = 0; place < 3; place++) {
+      C.due(when + ", turn(" + place + ")", x.turn(place), want[1 + place]);
+    }
+    C.due(when + ", the last word", x.word(want[0] - 1), want[4]);
+  }
+
+  /** Words and sales mixed, 44 of them: each step back and forth is the right one. */
+  private static void manyActs() {
+    int[][] states = new int[45][];
+    states[0] = new int[] {0, 0, 1, 2, NONE};
+    GuildCharter back = Check.made(PLAIN);
+    GuildCharter forth = Check.made(PLAIN);
+    for (int act = 1; act <= 44; act++) {
+      int[] now = states[act - 1].clone();
+      states[act] = now;
+      if (act % 14 == 0) {
+        now[4] = act / 14 % 3;
+        now[0]++;
+        back.write(now[4]);
+        forth.write(now[4]);
+      } else if (now[0] < 3) {
+        int place = now[0] + act * 7 % (3 - now[0]);
+        now[1 + place] = act * 5 % 11 % 3;
+        back.sell(place, now[1 + place]);
+        forth.sell(place, now[1 + place]);
+      }
+    }
+    // The row is full behind act 42, so what comes behind that is no act: 1 and 2 are not kept.
+    for (int act = 42; act > 2; act--) {
+      C.due("11: act " + act + " taken back", back.undo(), true);
+      state("11: ahead of act " + act, back, states[act - 1]);
+      C.due("11: act " + act + " taken back", forth.undo(), true);
+    }
+    C.due("11: act 2 is not kept", back.undo(), false);
+    for (int act = 3; act <= 42; act++) {
+      C.due("12: act " + act + " done again", forth.redo(), true);
+      state("12: behind act " + act, forth, states[act]);
+    }
+    C.due("12: no more", forth.redo(), false);
   }
 
   private static void promise13() {
@@ -709,6 +783,8 @@ public final class PromisesTest {
     for (int wrong : WRONG) {
       C.due("24: shortest(wrong)", x.shortest(wrong), NONE);
     }
+    x = Check.made(LARGE.replace("rule s = x or x s;", "rule s = x x;"));
+    C.due("24: with eight words", x.shortest(0), 2);
     x = Check.made("word a 1 1 1; rule s = s s or t a or u; rule t = t t; rule u = a a a; rule v = a u or s a or a;");
     C.due("24: shortest(0)", x.shortest(0), 3);
     C.due("24: reads none", x.shortest(1), 0);
