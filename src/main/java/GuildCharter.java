@@ -8,6 +8,7 @@ public final class GuildCharter {
     public static final int NONE = -1;
     public static final int GAP = -1000000;
 
+    /** The answer where NONE or 0 would say something else. */
     private static final int CANNOT = -2;
     private static final int GUILDS = 3;
     private static final int ALL_GUILDS = 7;
@@ -600,7 +601,7 @@ public final class GuildCharter {
 
         int rulesOfUse(int[] sizes) {
             int bits = rules > 0 && sizes[FIRST_RULE] > 0 ? 1 : 0;
-            // One pass more cannot reach more than one RULE less: so many passes as RULES reach all.
+            // Each pass but the last one reaches a RULE more: so many passes as RULES reach all.
             for (int pass = 0; pass < rules; pass++) {
                 for (int rule = 0; rule < rules; rule++) {
                     if ((bits >> rule & 1) != 0) {
