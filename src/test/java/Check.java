@@ -3,6 +3,8 @@ import java.nio.charset.StandardCharsets;
 /** What the tests of the project share: answers that are due, and texts for the tape. */
 final class Check {
   private final String title;
+  private String sentence = "";
+  private int sentences = 0;
   private int asked = 0;
   private int wrong = 0;
 
@@ -10,11 +12,17 @@ final class Check {
     this.title = title;
   }
 
+  /** What comes from here on tests a sentence of the document, which stands ahead of all that is printed. */
+  void sentence(String words) {
+    sentence = "\"" + words + "\": ";
+    sentences++;
+  }
+
   void due(String call, long got, long want) {
     asked++;
     if (got != want) {
       wrong++;
-      System.out.println(title + ": " + call + " answered " + got + ", due is " + want);
+      System.out.println(title + ": " + sentence + call + " answered " + got + ", due is " + want);
     }
   }
 
@@ -24,7 +32,8 @@ final class Check {
 
   /** Ends the program: with 1 if an answer was wrong, or if none was asked for. */
   void finish() {
-    System.out.println(title + ": " + asked + " answers, " + wrong + " of them wrong");
+    String tested = sentences > 0 ? sentences + " sentences, " : "";
+    System.out.println(title + ": " + tested + asked + " answers, " + wrong + " of them wrong");
     System.exit(wrong == 0 && asked > 0 ? 0 : 1);
   }
 
