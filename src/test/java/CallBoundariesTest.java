@@ -37,7 +37,8 @@ public final class CallBoundariesTest {
     turnTest();
     writeTest();
     sellTest();
-    undoRedoTest();
+    undoTest();
+    redoTest();
     wipeTest();
     wordTest();
     nextTest();
@@ -230,7 +231,7 @@ public final class CallBoundariesTest {
   }
 
   private static void portTest() {
-    C.sentence("Promise 4: The TAPE (empty then) is the PORT: how many WORDS");
+    C.sentence("Promise 4: The TAPE (empty then) is the PORT (..): how many WORDS");
     StringBuilder text = new StringBuilder();
     for (int words = 0; words <= 8; words++) {
       GuildCharter x = new GuildCharter();
@@ -252,9 +253,9 @@ public final class CallBoundariesTest {
     x.image(1);
     x.image(2);
     C.due("port()", Check.port(x, PLAIN), 3);
-    GuildCharter anew = Check.made(PLAIN);
+    int[] anew = {3, 1, 2, 4, 3, 0, 0, 0, 0, 3, 0, 0};
     for (int what = 0; what < 12; what++) {
-      C.due("about(" + what + ")", x.about(what), what == 9 ? 3 : anew.about(what));
+      C.due("about(" + what + ")", x.about(what), anew[what]);
     }
     for (int place = 0; place < 3; place++) {
       C.due("word(" + place + ")", x.word(place), NONE);
@@ -269,6 +270,21 @@ public final class CallBoundariesTest {
     C.due("untell(0)", x.untell(0), false);
     C.due("untell(1)", x.untell(1), false);
     C.due("seen", x.seen(0, 0, true), 0);
+    // The same ROWS and holes in other texts: a b and a c.
+    x = Check.made("word a 50 50 50; word b 50 50 50; word c 55 50 50; rule s = a b; length 2;");
+    for (int times = 0; times < 4; times++) {
+      x.hole(0, 0);
+      C.due("one FITS", x.fit(), 1 + times % 2);
+      C.due("best(0)", x.best(0), times % 2 == 0 ? 0 : 5);
+      x.write(0);
+      C.due("written(0)", x.written(0), times % 2 == 0 ? 0 : 5);
+      C.due("held(1)", x.held(1), 0);
+      C.due("held(7)", x.held(7), times % 2 == 0 ? 0 : 6);
+      // Guilds 0 and 1 have the second turn in two orders each, and like c.
+      C.due("lots(0)", x.lots(0), times % 2 == 0 ? 0 : 4 * 5);
+      String alt = times % 2 == 0 ? "a c or a b" : "a b";
+      Check.port(x, "word a 50 50 50; word b 50 50 50; word c 55 51 50; rule s = " + alt + "; length 2;");
+    }
     // The same answers, whatever text was there before: other words, pairs, rules, lengths, turns.
     String other = "word p 99 1 1; word q 1 99 1; word r 1 1 99; word t 60 60 60; pair p q 60 60 60; pair q p 40 70 50; pair q q 1 1 1;"
         + "rule s = x; rule x = y y or y y or p q; rule y = p or q or t; length 2; turns 2 0;";
@@ -505,37 +521,55 @@ public final class CallBoundariesTest {
     C.due("in an empty PORT, behind the last", x.sell(3, 0), NONE);
   }
 
-  private static void undoRedoTest() {
-    C.sentence("Promises 11, 12: UNDO: true; false if there is none. REDO: true; false if there is none");
+  private static void undoTest() {
+    C.sentence("Promise 11: UNDO: true; false if there is none");
     GuildCharter x = Check.made(PLAIN);
-    C.due("undo() of none", x.undo(), false);
-    C.due("redo() of none", x.redo(), false);
+    C.due("of none", x.undo(), false);
     x.write(2);
-    C.due("redo() of none", x.redo(), false);
-    C.due("undo() of one", x.undo(), true);
-    C.due("undo() of none", x.undo(), false);
-    C.due("redo() of one", x.redo(), true);
-    C.due("redo() of none", x.redo(), false);
+    C.due("of one", x.undo(), true);
+    C.due("of none", x.undo(), false);
+    C.due("about(5)", x.about(5), 0);
+    x = rich();
+    for (int left = 3; left >= 0; left--) {
+      C.due("of " + (left + 1), x.undo(), true);
+      C.due("about(6)", x.about(6), left);
+      C.due("about(7)", x.about(7), 5 - left);
+    }
+    C.due("of none", x.undo(), false);
+    C.due("about(7)", x.about(7), 5);
+    x = rich();
+    x.redo();
+    x.undo();
+    untouched("redo() and undo()", x);
+    x = rich();
+    Check.port(x, PLAIN);
+    C.due("of none, behind a new text", x.undo(), false);
+  }
+
+  private static void redoTest() {
+    C.sentence("Promise 12: REDO: true; false if there is none");
+    GuildCharter x = Check.made(PLAIN);
+    C.due("of none", x.redo(), false);
+    x.write(2);
+    C.due("of none that was taken back", x.redo(), false);
+    x.undo();
+    C.due("of one", x.redo(), true);
+    C.due("of none", x.redo(), false);
     C.due("word(0)", x.word(0), 2);
     x = rich();
-    int undone = 0;
-    while (undone < 50 && x.undo()) {
-      undone++;
+    for (int undone = 0; undone < 4; undone++) {
+      x.undo();
     }
-    C.due("four ACTS", undone, 4);
-    for (int redone = 0; redone < 5; redone++) {
-      C.due("redo()", x.redo(), true);
+    for (int left = 4; left >= 0; left--) {
+      C.due("of " + (left + 1), x.redo(), true);
+      C.due("about(7)", x.about(7), left);
     }
-    C.due("redo() of none", x.redo(), false);
+    C.due("of none", x.redo(), false);
     C.due("the last one", x.turn(2), 1);
     x = rich();
     x.undo();
     x.redo();
     untouched("undo() and redo()", x);
-    x = rich();
-    x.redo();
-    x.undo();
-    untouched("redo() and undo()", x);
     refused("redo() of none, behind another", 0, y -> {
       y.redo();
       int answer = number(y.redo());

@@ -79,7 +79,8 @@ public final class FuzzTest {
     names = names.subList(0, words);
     List<String> rules = new ArrayList<>(List.of(RULE_NAMES));
     Collections.shuffle(rules, lot);
-    rules = rules.subList(0, 1 + lot.nextInt(4));
+    // Sometimes as many as can be, or one too many: of RULES, of alts, of pairs, of WORDS.
+    rules = rules.subList(0, 1 + lot.nextInt(lot.nextInt(4) == 0 ? 9 : 4));
     int spread = lot.nextInt(3) == 0 ? 50 : 1 + lot.nextInt(6);
     StringBuilder lines = new StringBuilder();
     int rule = 0;
@@ -93,7 +94,7 @@ public final class FuzzTest {
       lines.append("length ").append(length).append(blank(";"));
     }
     List<String> pairs = new ArrayList<>();
-    for (int i = lot.nextInt(13); i > 0; i--) {
+    for (int i = lot.nextInt(lot.nextInt(4) == 0 ? 40 : 13); i > 0; i--) {
       String pair = "pair " + names.get(lot.nextInt(words)) + " " + names.get(lot.nextInt(words));
       if (!pairs.contains(pair)) {
         pairs.add(pair);
@@ -146,7 +147,7 @@ public final class FuzzTest {
         }
       }
     }
-    for (int i = lot.nextInt(4); i > 0 || alts.isEmpty(); i--) {
+    for (int i = lot.nextInt(lot.nextInt(9) == 0 ? 22 : 4); i > 0 || alts.isEmpty(); i--) {
       alts.add(alt(rules, own, words));
     }
     Collections.shuffle(alts, lot);

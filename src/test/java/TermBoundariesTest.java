@@ -101,7 +101,7 @@ public final class TermBoundariesTest {
   // ---- part 2: what is READ
 
   private static void noneEmptyTest() {
-    C.sentence("2: put together of ROWS that the NAMES of one of its alts READ, one behind the other, none empty");
+    C.sentence("2: put together of ROWS that the NAMES of one of its alts READ (..), one behind the other, none empty");
     for (int names = 1; names <= 4; names++) {
       for (int length = 1; length <= 6; length++) {
         String alt = "x" + " x".repeat(names - 1);
@@ -123,6 +123,16 @@ public final class TermBoundariesTest {
     C.due("fit()", x.fit(), 1);
     x.hole(0, 1);
     C.due("b first", x.fit(), 0);
+    String words = "";
+    for (char word = 'a'; word <= 'h'; word++) {
+      words += "word " + word + " 50 50 50;";
+    }
+    String rules = "length 1; rule s = t; rule t = u; rule u = v; rule v = w; rule w = x; rule x = y; rule y = z; rule z = ";
+    for (int word = 0; word < 8; word++) {
+      x = Check.made(words + rules + (char) ('a' + word) + ";");
+      C.due("one of eight by way of eight RULES", x.next(), 1 << word);
+      C.due("fit()", x.fit(), 1);
+    }
   }
 
   private static void ruleNoughtTest() {
@@ -260,6 +270,20 @@ public final class TermBoundariesTest {
     C.due("b a b", x.fit(), 1);
     C.due("write b behind a a", x.write(1), NONE);
     C.due("write a behind a a", x.write(0), 3);
+    // Other ROWS that were looked at in between, for holes, change nothing.
+    x = Check.made("word a 50 50 50; word b 50 50 50; word c 50 50 50; rule s = a a b or b c a or c b c;");
+    for (int word = 0; word < 3; word++) {
+      x.write(word);
+      for (int other = 0; other < 3; other++) {
+        x.hole(0, other);
+        C.due("one fits", x.fit(), 1);
+        C.due("next() behind " + word, x.next(), word == 0 ? 1 : word == 1 ? 4 : 2);
+        x.hole(0, other == 0 ? 1 : 0);
+        x.fit();
+        C.due("write() behind " + word, x.write(word == 0 ? 1 : 0), NONE);
+      }
+      x.undo();
+    }
   }
 
   private static void meansTest() {
@@ -304,6 +328,18 @@ public final class TermBoundariesTest {
     C.due("from a CHARTER", writing("word a 51 50 50; rule s = a a;length 2;", 0, 0).written(0), 2);
     C.due("from one WORD less", writing("word a 51 50 50; rule s = a a;length 2;", 0).written(0), 2);
     C.due("from none", writing("word a 51 50 50; rule s = a a;length 2;").written(0), 2);
+    x = Check.made("word a 50 50 50; word b 50 50 50; word c 50 50 50; rule s = a a b or b c a or c b c;");
+    int[][] charters = {{0, 0, 1}, {1, 2, 0}, {2, 1, 2}};
+    for (int word = 0; word < 3; word++) {
+      for (int other = 0; other < 3; other++) {
+        x.write(word);
+        x.hole(0, other);
+        x.fit();
+        C.due("from another ROW each time", x.written(0), 0);
+        lying(x, charters[word]);
+        x.undo();
+      }
+    }
   }
 
   private static void writtenMostTest() {
@@ -360,6 +396,21 @@ public final class TermBoundariesTest {
       C.due("of a CHARTER, held(" + guilds + ")", x.held(guilds), there[guilds]);
     }
     x = Check.made(game("x x", "0 1", p(1, 1), p(4, 0), p(2, 2), p(3, -5)));
+    // From each ROW by itself, whichever was asked for before.
+    GuildCharter own = Check.made(OWN.replace("c 50 50 51", "c 50 50 52"));
+    C.due("from none", own.held(7), 6);
+    for (int word = 0; word < 3; word++) {
+      own.write(word);
+      C.due("from " + word, own.held(7), word == 2 ? 6 : 5);
+      own.write(word);
+      C.due("from " + word + " " + word, own.held(7), word == 2 ? 6 : 4);
+      own.write(word);
+      C.due("from " + word + " " + word + " " + word, own.held(7), word == 2 ? 6 : 3);
+      own.undo();
+      C.due("and back", own.held(7), word == 2 ? 6 : 4);
+      own.wipe();
+    }
+    C.due("from none again", own.held(7), 6);
     C.due("0 is sure of 2 by b", x.held(1), 2);
     C.due("1 is sure of 1 behind a", x.held(2), 1);
     C.due("both are sure of 4", x.held(3), 4);
@@ -539,6 +590,9 @@ public final class TermBoundariesTest {
     C.due("one it does not come to", Check.made(word + "rule s = a; rule t = a;").used(), 1);
     C.due("one that comes to it", Check.made(word + "rule s = a; rule t = s s;").used(), 1);
     C.due("one it comes to", Check.made(word + "rule s = t; rule t = a;").used(), 3);
+    C.due("some it does not come to", Check.made(word + "rule s = a; rule t = u u; rule u = a;").used(), 1);
+    C.due("not by way of others it does not come to", Check.made(word + "rule s = v; rule t = u u; rule u = a; rule v = a;").used(), 9);
+    C.due("none of the alt behind", Check.made(word + "rule s = a a a a or u v; rule u = a; rule v = v v;").used(), 1);
     C.due("by an alt of which one READS none", Check.made(word + "rule s = t u or a; rule t = a; rule u = u u;").used(), 1);
     C.due("by another alt", Check.made(word + "rule s = t u or a t; rule t = a; rule u = u u;").used(), 3);
     C.due("of any length", Check.made(word + "rule s = t t t t or a; rule t = u u u u; rule u = a a a a; length 1;").used(), 7);
@@ -561,6 +615,13 @@ public final class TermBoundariesTest {
     C.due("2 of 2 and 3", Check.made(word + "rule s = a a a or a a;").shortest(0), 2);
     C.due("1 of 4 and 1", Check.made(word + "rule s = a a a a or s s or a;").shortest(0), 1);
     C.due("none", Check.made(word + "rule s = a s;").shortest(0), 0);
+    String lines = "";
+    for (char name = 'a'; name <= 'h'; name++) {
+      lines += "word " + name + " 50 50 50;";
+      C.due("none, with WORDS up to " + name, Check.made(lines + "rule s = s s;").shortest(0), 0);
+      C.due("2, with WORDS up to " + name, Check.made(lines + "rule s = " + name + " a;").shortest(0), 2);
+      C.due("OF USE, with WORDS up to " + name, Check.made(lines + "rule s = t " + name + "; rule t = t t;").used(), 0);
+    }
     C.due("longer than a CHARTER", Check.made(word + "rule s = t t t t; rule t = a a; length 1;").shortest(0), 8);
     GuildCharter x = Check.made(word + "rule s = z z z z; rule t = a a a a; rule u = t t t t; rule v = u u u u; rule w = v v v v;"
         + "rule x = w w w w; rule y = x x x x; rule z = y y y y;");
@@ -881,6 +942,25 @@ public final class TermBoundariesTest {
     }
     C.due("all but one", x.undo(), false);
     C.due("which was the first", x.turn(0), 1);
+    // Of all sorts, so that the oldest go as a whole: sales of PLACES 1 and 2 by turns with WORDS at PLACE 0.
+    x = Check.made(OWN);
+    int[][] turns = new int[50][];
+    for (int act = 1; act <= 45; act++) {
+      turns[act] = new int[] {x.turn(0), x.turn(1), x.turn(2), x.about(5)};
+      if (act == 11 || act == 44) {
+        x.write(act % 3);
+      } else {
+        x.sell(act < 44 ? 1 + act % 2 : 2, act / 2 % 3);
+      }
+    }
+    for (int act = 45; act > 5; act--) {
+      C.due("ACT " + act + " taken back", x.undo(), true);
+      for (int place = 0; place < 3; place++) {
+        C.due("ahead of ACT " + act + ", turn(" + place + ")", x.turn(place), turns[act][place]);
+      }
+      C.due("ahead of ACT " + act + ", about(5)", x.about(5), turns[act][3]);
+    }
+    C.due("ACT 5 is not kept", x.undo(), false);
   }
 
   private static void wipedTest() {

@@ -196,6 +196,11 @@ public final class TextBoundariesTest {
       rows.append("word ").append("a".repeat(size)).append(" 1 2 3;");
     }
     C.due("so does how many there are", good(rows.toString()).about(0), 8);
+    GuildCharter x = new GuildCharter();
+    Check.tape(x, "word a 1 2 3; rule s = ab");
+    x.end(24);
+    Check.tape(x, ";");
+    C.due("a letter that is not on the tape any more", x.port(), 1);
     C.due("and where they stand", good("word aa 1 2 3; word q 1 2 3; word z 1 2 3; word aj 1 2 3;").about(0), 4);
   }
 
@@ -214,6 +219,14 @@ public final class TextBoundariesTest {
     text("length 10000;", 1, 7);
     text("turns 0 0000 00000;", 1, 13);
     text("length 4294967299;", 1, 7);
+    GuildCharter cut = new GuildCharter();
+    Check.tape(cut, "length 33");
+    cut.end(8);
+    C.due("a digit that is not on the tape any more", cut.port(), NONE);
+    C.due("fault(0)", cut.fault(0), 2);
+    C.due("fault(1)", cut.fault(1), 8);
+    Check.tape(cut, ";");
+    C.due("length 3;", cut.port(), 0);
     for (int digit = 0; digit <= 9; digit++) {
       C.due("the digit " + digit, good("word a " + digit + " " + digit + digit + " 1;").worth(0, 1), 11 * digit - 50);
     }
@@ -385,6 +398,11 @@ public final class TextBoundariesTest {
       C.due("pairs of each text", x.about(1), 1);
       C.due("another's is gone", x.behind(1, 0, 1), 0);
     }
+    for (int times = 0; times < 3; times++) {
+      for (String pair : new String[] {"pair a a", "pair b b", "pair b a"}) {
+        C.due(pair + " once in each text", Check.port(x, two + pair + " 1 2 3;"), 2);
+      }
+    }
     C.due("twice in one", Check.port(x, two + "pair a b 1 2 3;"), NONE);
     C.due("once in the next", Check.port(x, two), 2);
   }
@@ -505,8 +523,11 @@ public final class TextBoundariesTest {
     C.due("another text without", Check.port(x, ""), 0);
     C.due("is 3 again", x.about(4), 3);
     Check.port(x, "length 5;");
+    Check.port(x, "length 6;");
     Check.port(x, "turns 2;");
     C.due("and once more", x.about(4), 3);
+    Check.port(x, "");
+    C.due("and still", x.about(4), 3);
   }
 
   private static void lengthOnceTest() {
