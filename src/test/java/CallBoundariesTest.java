@@ -422,10 +422,10 @@ public final class CallBoundariesTest {
 
   private static void behindTest() {
     C.sentence("Promise 7: What it is WORTH that a WORD stands directly behind another one (0 if it is no pair); GAP if one can't be");
-    GuildCharter x = Check.made("word a 1 1 1; word b 1 1 1; pair a b 0 99 51; pair b b 40 50 60;");
     int[] worths = {0, 0, 0, -50, 49, 1, 0, 0, 0, -10, 0, 10};
     int[] numbers = {LEAST, -1, 0, 1, 2, 3, 8, MOST};
     for (int first : numbers) {
+      GuildCharter x = Check.made("word a 1 1 1; word b 1 1 1; pair a b 0 99 51; pair b b 40 50 60;");
       for (int second : numbers) {
         for (int guild : numbers) {
           boolean can = within(first, 0, 1) && within(second, 0, 1) && within(guild, 0, 2);
