@@ -146,11 +146,7 @@ public final class GuildCharter {
     }
 
     public int write(int word) {
-        if (!told.hasWord(word) || earnest.size >= told.length) {
-            return NONE;
-        }
-        reader.readBeginning(told, earnest.row, earnest.size);
-        if (!reader.canTake(told, earnest.size, word)) {
+        if (!told.hasWord(word) || (nextInEarnest() >> word & 1) == 0) {
             return NONE;
         }
         earnest.putWord(word);
@@ -189,17 +185,12 @@ public final class GuildCharter {
     }
 
     public int next() {
-        if (earnest.size >= told.length) {
-            return 0;
-        }
+        return nextInEarnest();
+    }
+
+    private int nextInEarnest() {
         reader.readBeginning(told, earnest.row, earnest.size);
-        int bits = 0;
-        for (int word = 0; word < told.words; word++) {
-            if (reader.canTake(told, earnest.size, word)) {
-                bits |= 1 << word;
-            }
-        }
-        return bits;
+        return reader.nextWords(told, earnest.size);
     }
 
     public int readings() {
@@ -1074,58 +1065,88 @@ public final class GuildCharter {
     }
 
     /**
-     * Whether a ROW can GO ON: the PLACES behind it may be any WORDS, each by itself, so it is READ
-     * with all WORDS at once there. Columns are by ends, so that those of a ROW's beginning stay.
+     * By which WORDS a ROW can GO ON. PLACES behind the next one may be any WORDS, each by itself, so
+     * they are READ with all WORDS at once; at the next PLACE all WORDS are tried at once, a bit each.
+     * Columns are by ends, so that those of a ROW's beginning stay.
      */
     private static final class Reader {
-        /** By end and symbol: the starts from which it READS up to this end, as bits. */
-        private final int[] starts = new int[(MOST_PLACES + 1) * SYMBOLS];
+        /** A column's number has a lane of bits for each start: the WORDS at the next PLACE. */
+        private static final int LANE_BITS = 8;
+        private static final long ANY_WORD = 255;
+        private static final long EACH_START = 0x10101010101L;
+
+        /** By end and symbol: from which starts it READS up to this end, by which WORDS. */
+        private final long[] columns = new long[(MOST_PLACES + 1) * SYMBOLS];
+        /** The same where the end is that of the next PLACE; longer ROWS leave these as they are. */
+        private final long[] choices = new long[(MOST_PLACES + 1) * SYMBOLS];
 
         void readBeginning(Port port, int[] row, int size) {
             for (int place = 0; place < size; place++) {
-                fillColumn(port, place + 1, 1 << row[place]);
+                fillColumn(port, place + 1, 1 << row[place], false);
             }
         }
 
-        /** Whether the ROW whose columns stand can GO ON (or is a CHARTER) by one WORD more. */
-        boolean canTake(Port port, int size, int word) {
-            fillColumn(port, size + 1, 1 << word);
+        /** WORDS, as bits, by which the ROW whose columns stand can GO ON, or is a CHARTER then. */
+        int nextWords(Port port, int size) {
+            if (size >= port.length || port.rules == 0) {
+                return 0;
+            }
+            int all = (1 << port.words) - 1;
+            fillColumn(port, size + 1, all, true);
+            System.arraycopy(columns, (size + 1) * SYMBOLS, choices, (size + 1) * SYMBOLS, SYMBOLS);
             for (int end = size + 2; end <= port.length; end++) {
-                fillColumn(port, end, (1 << port.words) - 1);
+                fillColumn(port, end, all, false);
             }
-            return port.rules > 0 && (starts[port.length * SYMBOLS + FIRST_RULE] & 1) != 0;
+            return (int) (columns[port.length * SYMBOLS + FIRST_RULE] & ANY_WORD);
         }
 
-        private void fillColumn(Port port, int end, int words) {
+        /** The ROW for whose size nextWords was asked goes on by a WORD. */
+        void goOn(int size, int word) {
+            for (int symbol = 0; symbol < SYMBOLS; symbol++) {
+                int at = (size + 1) * SYMBOLS + symbol;
+                columns[at] = (choices[at] >> word & EACH_START) * ANY_WORD;
+            }
+        }
+
+        private void fillColumn(Port port, int end, int words, boolean tried) {
+            int lastStart = (end - 1) * LANE_BITS;
             for (int symbol = 0; symbol < SYMBOLS; symbol++) {
                 boolean fits = symbol < FIRST_RULE && (words >> symbol & 1) != 0;
-                starts[end * SYMBOLS + symbol] = fits ? 1 << (end - 1) : 0;
+                long lane = tried ? 1L << symbol : ANY_WORD;
+                columns[end * SYMBOLS + symbol] = fits ? lane << lastStart : 0;
             }
             boolean changed = true;
-            // Each pass but the last one adds a start to a RULE.
-            for (int pass = 0; pass <= MOST_RULES * MOST_PLACES && changed; pass++) {
-                changed = false;
-                for (int rule = port.rules - 1; rule >= 0; rule--) {
-                    int old = starts[end * SYMBOLS + FIRST_RULE + rule];
-                    int bits = old;
-                    for (int alt = port.firstAlts[rule]; alt < port.firstAlts[rule + 1]; alt++) {
-                        bits |= startsOfAlt(port, alt, end);
-                    }
-                    starts[end * SYMBOLS + FIRST_RULE + rule] = bits;
-                    changed |= bits != old;
-                }
+            // Each pass settles a start more, the last start first.
+            for (int pass = 0; pass < end && changed; pass++) {
+                changed = growColumn(port, end);
             }
         }
 
-        private int startsOfAlt(Port port, int alt, int end) {
+        private boolean growColumn(Port port, int end) {
+            boolean changed = false;
+            // The one NAME of an alt is a later RULE's, if any: so the last RULE comes first.
+            for (int rule = port.rules - 1; rule >= 0; rule--) {
+                int at = end * SYMBOLS + FIRST_RULE + rule;
+                long bits = columns[at];
+                for (int alt = port.firstAlts[rule]; alt < port.firstAlts[rule + 1]; alt++) {
+                    bits |= startsOfAlt(port, alt, end);
+                }
+                changed |= bits != columns[at];
+                columns[at] = bits;
+            }
+            return changed;
+        }
+
+        private long startsOfAlt(Port port, int alt, int end) {
             int last = port.altSizes[alt] - 1;
-            int bits = starts[end * SYMBOLS + port.altParts[alt * MOST_PARTS + last]];
+            long bits = columns[end * SYMBOLS + port.altParts[alt * MOST_PARTS + last]];
             for (int part = last - 1; part >= 0 && bits != 0; part--) {
                 int symbol = port.altParts[alt * MOST_PARTS + part];
-                int further = 0;
+                long further = 0;
                 for (int cut = 1; cut < end; cut++) {
-                    if ((bits >> cut & 1) != 0) {
-                        further |= starts[cut * SYMBOLS + symbol];
+                    long words = bits >> cut * LANE_BITS & ANY_WORD;
+                    if (words != 0) {
+                        further |= columns[cut * SYMBOLS + symbol] & words * EACH_START;
                     }
                 }
                 bits = further;
@@ -1256,19 +1277,24 @@ public final class GuildCharter {
         /** Each level is one WORD deeper: six levels at most. */
         private void grow(Port port, Reader reader, int node) {
             int depth = depths[node];
-            if (depth >= length) {
-                return;
-            }
+            int next = reader.nextWords(port, depth);
             int only = (holes >> depth * HOLE_BITS & HOLE_MASK) - 1;
             for (int word = 0; word < port.words && !spent; word++) {
-                if ((only == NONE || only == word) && reader.canTake(port, depth, word)) {
+                if ((only == NONE || only == word) && (next >> word & 1) != 0) {
                     if (size >= MOST_ROWS) {
                         spent = true;
                     } else {
                         add(port, node, word);
-                        grow(port, reader, size - 1);
+                        growBehind(port, reader, depth, word);
                     }
                 }
+            }
+        }
+
+        private void growBehind(Port port, Reader reader, int depth, int word) {
+            if (depth + 1 < length) {
+                reader.goOn(depth, word);
+                grow(port, reader, size - 1);
             }
         }
 
