@@ -1109,32 +1109,31 @@ public final class GuildCharter {
         }
 
         private void fillColumn(Port port, int end, int words, boolean tried) {
-            int lastStart = (end - 1) * LANE_BITS;
-            for (int symbol = 0; symbol < SYMBOLS; symbol++) {
-                boolean fits = symbol < FIRST_RULE && (words >> symbol & 1) != 0;
-                long lane = tried ? 1L << symbol : ANY_WORD;
-                columns[end * SYMBOLS + symbol] = fits ? lane << lastStart : 0;
-            }
+            beginColumn(end, words, tried);
             boolean changed = true;
             // Each pass settles a start more, the last start first.
             for (int pass = 0; pass < end && changed; pass++) {
-                changed = growColumn(port, end);
+                changed = false;
+                // The one NAME of an alt is a later RULE's, if any: so the last RULE comes first.
+                for (int rule = port.rules - 1; rule >= 0; rule--) {
+                    int at = end * SYMBOLS + FIRST_RULE + rule;
+                    long bits = columns[at];
+                    for (int alt = port.firstAlts[rule]; alt < port.firstAlts[rule + 1]; alt++) {
+                        bits |= startsOfAlt(port, alt, end);
+                    }
+                    changed |= bits != columns[at];
+                    columns[at] = bits;
+                }
             }
         }
 
-        private boolean growColumn(Port port, int end) {
-            boolean changed = false;
-            // The one NAME of an alt is a later RULE's, if any: so the last RULE comes first.
-            for (int rule = port.rules - 1; rule >= 0; rule--) {
-                int at = end * SYMBOLS + FIRST_RULE + rule;
-                long bits = columns[at];
-                for (int alt = port.firstAlts[rule]; alt < port.firstAlts[rule + 1]; alt++) {
-                    bits |= startsOfAlt(port, alt, end);
-                }
-                changed |= bits != columns[at];
-                columns[at] = bits;
+        private void beginColumn(int end, int words, boolean tried) {
+            int lastLane = (end - 1) * LANE_BITS;
+            for (int symbol = 0; symbol < SYMBOLS; symbol++) {
+                boolean fits = symbol < FIRST_RULE && (words >> symbol & 1) != 0;
+                long lane = tried ? 1L << symbol : ANY_WORD;
+                columns[end * SYMBOLS + symbol] = fits ? lane << lastLane : 0;
             }
-            return changed;
         }
 
         private long startsOfAlt(Port port, int alt, int end) {
